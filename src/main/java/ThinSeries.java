@@ -542,7 +542,6 @@ public final class ThinSeries {
         int most;
 
         Plan() {
-            tiers = 0;
             most = FIRST_MOST;
             takeFirstTiers();
         }
@@ -643,13 +642,17 @@ public final class ThinSeries {
             return size > 0;
         }
 
-        void addStep(int what) {
-            addComparison(0, what, 0);
+        void addComparison(int fact, int relation, int with) {
+            addStep(fact * 3 + relation, with);
         }
 
-        void addComparison(int fact, int relation, int with) {
+        void addJoint(int joint) {
+            addStep(joint, 0);
+        }
+
+        private void addStep(int what, int with) {
             if (size < STEP_LIMIT) {
-                step[size] = fact * 3 + relation;
+                step[size] = what;
                 number[size] = with;
                 size++;
             }
@@ -895,10 +898,10 @@ public final class ThinSeries {
                     if (!readUnit(into, depth)) {
                         return false;
                     }
-                    into.addStep(Alarm.AND);
+                    into.addJoint(Alarm.AND);
                 }
                 if (i > 0) {
-                    into.addStep(Alarm.OR);
+                    into.addJoint(Alarm.OR);
                 }
                 if (!tokens.isWord("or")) {
                     return true;
@@ -923,7 +926,7 @@ public final class ThinSeries {
             if (!readUnit(into, depth + 1)) {
                 return false;
             }
-            into.addStep(Alarm.NOT);
+            into.addJoint(Alarm.NOT);
             return true;
         }
 
