@@ -911,26 +911,21 @@ public final class ThinSeries {
             return false;
         }
 
+        /** Comparisons are read here too, so that few calls stand open at once. */
         private boolean readUnit(Alarm into, int depth) {
             boolean isNot = tokens.isWord("not");
-            if (!isNot && !tokens.isSign('(')) {
-                return readComparison(into);
+            if (isNot || tokens.isSign('(')) {
+                if (depth >= NESTING_LIMIT) {
+                    return tokens.refuse(Tokens.TOO_MUCH);
+                }
+                tokens.next();
+                if (!isNot) {
+                    return readTest(into, depth + 1) && tokens.takeSign(')');
+                }
+                boolean sound = readUnit(into, depth + 1);
+                into.addJoint(Alarm.NOT);
+                return sound;
             }
-            if (depth >= NESTING_LIMIT) {
-                return tokens.refuse(Tokens.TOO_MUCH);
-            }
-            tokens.next();
-            if (!isNot) {
-                return readTest(into, depth + 1) && tokens.takeSign(')');
-            }
-            if (!readUnit(into, depth + 1)) {
-                return false;
-            }
-            into.addJoint(Alarm.NOT);
-            return true;
-        }
-
-        private boolean readComparison(Alarm into) {
             int fact = factHere();
             if (fact == NONE) {
                 return tokens.refuse(Tokens.WRONG);
@@ -941,11 +936,9 @@ public final class ThinSeries {
                 return tokens.refuse(Tokens.WRONG);
             }
             tokens.next();
-            if (!tokens.takeSigned(Tokens.NUMBER_LIMIT)) {
-                return false;
-            }
+            boolean sound = tokens.takeSigned(Tokens.NUMBER_LIMIT);
             into.addComparison(fact, relation, tokens.taken);
-            return true;
+            return sound;
         }
 
         private int factHere() {
