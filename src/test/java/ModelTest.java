@@ -53,6 +53,8 @@ public final class ModelTest {
         final Model model = new Model();
         final StringBuilder log = new StringBuilder();
         int calls = 0;
+        /** Each fourth run has spans and stretches up to the document's greatest, and all IDs. */
+        final boolean wide;
         int centre;
         int spread;
 
@@ -60,7 +62,8 @@ public final class ModelTest {
             this.seed = seed;
             random = new Random(seed);
             centre = pick(0, 0, 1000, -1000, 999000, -999000, 500000);
-            spread = pick(50, 400, 3000, 100000);
+            wide = seed % 4 == 3;
+            spread = wide ? pick(3000, 100000, 1000000, 2000000) : pick(50, 400, 3000, 100000);
         }
 
         int pick(int... of) {
@@ -103,7 +106,7 @@ public final class ModelTest {
         }
 
         int id() {
-            return random.nextInt(40) == 0 ? pick(-1, 10, Integer.MAX_VALUE, Integer.MIN_VALUE) : random.nextInt(7);
+            return random.nextInt(40) == 0 ? pick(-1, 10, Integer.MAX_VALUE, Integer.MIN_VALUE) : random.nextInt(wide ? 10 : 7);
         }
 
         int time() {
@@ -141,7 +144,7 @@ public final class ModelTest {
                 check("drop(" + id + ")", () -> real.drop(id), () -> model.drop(id));
             } else {
                 int n = random.nextInt(20) == 0 ? pick(-1, 60, 61, Integer.MAX_VALUE, Integer.MIN_VALUE) : random.nextInt(13);
-                int step = random.nextInt(20) == 0 ? pick(Integer.MAX_VALUE, Integer.MIN_VALUE, 0, 400000) : random.nextInt(61) - 25;
+                int step = random.nextInt(20) == 0 ? pick(Integer.MAX_VALUE, Integer.MIN_VALUE, 0, 400000) : (random.nextInt(61) - 25) * (wide ? 997 : 1);
                 int rise = random.nextInt(20) == 0 ? pick(Integer.MAX_VALUE, Integer.MIN_VALUE, 0, 4000) : random.nextInt(7) - 3;
                 check("sheet(" + id + ", " + n + ", " + time + ", " + step + ", " + value + ", " + rise + ")",
                         () -> real.sheet(id, n, time, step, value, rise), () -> model.sheet(id, n, time, step, value, rise));
@@ -225,14 +228,14 @@ public final class ModelTest {
         String planText() {
             StringBuilder text = new StringBuilder();
             int tiers = pick(0, 1, 2, 3, 4, 4, 5);
-            int span = pick(1, 2, 5, 10, 100);
+            int span = wide ? pick(1, 3, 7, 100, 1000, 12500, 25000, 50000) : pick(1, 2, 5, 10, 100);
             boolean alarmFirst = random.nextBoolean();
             if (alarmFirst) {
                 alarmText(text);
             }
             for (int i = 0; i < tiers; i++) {
-                text.append("tier ").append(span).append(' ').append(random.nextInt(25) == 0 ? pick(0, 20, 21) : 1 + random.nextInt(6)).append(';');
-                span = random.nextInt(25) == 0 ? pick(0, span, span + 1, 100000, 100001, 12345678) : span * pick(2, 3, 4, 10);
+                text.append("tier ").append(span).append(' ').append(random.nextInt(25) == 0 ? pick(0, 20, 21) : 1 + random.nextInt(wide ? 20 : 6)).append(';');
+                span = random.nextInt(25) == 0 ? pick(0, span, span + 1, 100000, 100001, 12345678) : span * (wide ? pick(2, 2, 4, 8, 50) : pick(2, 3, 4, 10));
                 if (random.nextInt(5) == 0) {
                     text.append("most ").append(1 + random.nextInt(6)).append(" ;\n");
                 }
@@ -741,10 +744,7 @@ public final class ModelTest {
             List<Bucket> inside = new ArrayList<>();
             List<Bucket> partly = new ArrayList<>();
             for (Bucket b : bucketsOf(h)) {
-                int in = 0;
-                for (int t = b.start; t < b.start + spans[b.tier]; t++) {
-                    in += t >= from && t < to ? 1 : 0;
-                }
+                int in = Math.max(0, Math.min(to, b.start + spans[b.tier]) - Math.max(from, b.start));
                 if (in == spans[b.tier]) {
                     inside.add(b);
                 } else if (in > 0) {

@@ -19,8 +19,9 @@ import java.util.regex.Pattern;
  * under the heading of the '#' line) and, behind each sentence, runs of calls that fail if it is
  * broken ('-' lines: each begins with a new object). README.md tells how a call is written.
  *
- * Each quoted sentence must stand in ../shared/DOC.md, and nothing of its terms and promises may
- * be left unquoted, so that a sentence without a test is found, too.
+ * Each quoted sentence must stand in ../shared/DOC.md, and nothing of 'What it is', of its terms
+ * with the constants and of its promises may be left unquoted, so that a sentence without a test
+ * is found, too.
  */
 public final class SentenceTest {
     private static final Path SENTENCES = Paths.get("src/test/sentences");
@@ -271,8 +272,12 @@ public final class SentenceTest {
             for (String part : text.split("(?m)^## ")) {
                 String heading = part.split("\n", 2)[0].trim();
                 String body = part.substring(part.indexOf('\n') + 1);
-                if (heading.equals("Terms")) {
-                    String[] terms = body.split("The constants:")[0].split("==== \\d\\.");
+                if (heading.equals("What it is")) {
+                    keep(heading, body);
+                } else if (heading.equals("Terms")) {
+                    String[] both = body.split("The constants:");
+                    keep("Constants", both.length > 1 ? both[1] : "");
+                    String[] terms = both[0].split("==== \\d\\.");
                     for (int i = 0; i < terms.length; i++) {
                         keep(i == 0 ? heading : heading + " " + i, terms[i]);
                     }
